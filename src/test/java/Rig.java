@@ -1,9 +1,9 @@
 /** A PartyRaft under test, and what its calls should answer. */
 final class Rig {
     final PartyRaft raft = new PartyRaft();
+    private static int wrong;
+    private static int asked;
     private final String name;
-    private int wrong;
-    private int asked;
 
     Rig(String name) {
         this.name = name;
@@ -57,14 +57,8 @@ final class Rig {
         }
     }
 
-    /** How many answers of several rigs were wrong; the program ends with 1, if any. */
-    static void close(Rig... rigs) {
-        int wrong = 0;
-        int asked = 0;
-        for (Rig rig : rigs) {
-            wrong += rig.wrong;
-            asked += rig.asked;
-        }
+    /** Says how many answers were wrong; the program ends with 1, if any. */
+    static void close() {
         System.out.println(asked + " answers, " + wrong + " wrong");
         if (wrong != 0) {
             System.exit(1);
