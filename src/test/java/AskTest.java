@@ -36,6 +36,10 @@ public final class AskTest {
         rig.due("those of before too", r.ahead(1, 1), 9);
         rig.due("miles left", r.ahead(3, 2), 6);
         rig.due("not more", r.ahead(4, 2), -1);
+        rig = Rig.on("wet", "river 5 9;owner 5 1;owner 5 0;owner 5 1;thing 0 0 0 0;thing 1 0 0 0;thing 2 0 0 0");
+        rig.due("nobody yet", rig.raft.ahead(0, 3), 0);
+        rig.due("the first and the last", rig.raft.ahead(1, 3), 5);
+        rig.due("by what is asked nothing changes", rig.raft.ahead(0, 0), 7);
     }
 
     private static void sinks() {
@@ -89,6 +93,19 @@ public final class AskTest {
         rig.due("there are none", rig.raft.bearers(1, 0), -2);
         rig.due("there are none", rig.raft.bearers(1, 1), -2);
         rig.due("there are none", rig.raft.bearers(7, 0), -2);
+        rig = Rig.on("bearers on the river, as they are now", "river 6 9;owner 6 0;owner 1 0;thing 0 9 50 0;thing 1 0 99 0;thing 0 5 9 4;thing 0 50 0 0");
+        rig.due("by what lands", rig.raft.bearers(8, 1), 2);
+        rig.due("float now", rig.raft.bearers(4, 1), 0);
+        rig.raft.mile();
+        rig.due("3 sank, 1 landed", rig.raft.count(9), 5);
+        rig.due("what sank", rig.raft.bearers(8, 1), -1);
+        rig.due("float now", rig.raft.bearers(4, 1), 0);
+        rig.raft.undo();
+        rig.raft.bind(0, 2, 1);
+        rig.raft.mile();
+        rig.raft.mile();
+        rig.due("float then", rig.raft.thing(2, 2), 1);
+        rig.due("not by what landed", rig.raft.bearers(4, 1), 1);
         rig = Rig.on("bearers", "river 6 9");
         rig.due("no things", rig.raft.bearers(0, 0), 0);
     }
@@ -118,6 +135,10 @@ public final class AskTest {
         row(Rig.on("who lands is not asked", owners + ";thing 0 9 9 9"), 1, 0);
         String seven = owners + ";thing 0 0 9 0".repeat(7);
         row(Rig.on("seven", seven), 5040, 0, 1, 2, 3, 4, 5, 6);
+        row(Rig.on("at the next mile", "river 9 9;owner 1 0;owner 2 0;thing 1 0 9 0;thing 0 0 9 0;thing 1 0 9 0"), 4, 0, 2, 1);
+        row(Rig.on("at the next mile", "river 9 9;owner 1 0;owner 2 0;thing 1 3 9 7;thing 0 0 9 0"), 0);
+        row(Rig.on("three landings, told late", "river 9 9;owner 9 0;owner 8 0;owner 1 0;thing 0 0 9 0;thing 2 0 9 0;thing 1 0 9 0;thing 0 0 9 0"),
+            8, 0, 3, 2, 1);
         // later: a landing that is behind, and a thing given to who landed
         Rig rig = Rig.on("later", owners + ";thing 0 0 9 0;thing 1 0 9 0;thing 1 0 9 0;thing 2 0 9 0;thing 2 0 99 0;bound 0 4 1;bound 3 4 1;bound 1 4 1;bound 2 4 1");
         rig.due("miles", rig.raft.mile() + rig.raft.mile() + rig.raft.mile(), 0);
@@ -172,6 +193,18 @@ public final class AskTest {
         sawn(rig, 3, 1, 1, 1);
         sawn(rig, 1, 2, 3, 1);
         sawn(rig, 0, 0, 0, 1);
+        // 1 sinks by owner 0, who rides it if 2 is not in one piece with 0: of 3, 6 and 7 the first
+        rig = Rig.on("the least of several", "river 9 9;owner 9 7;owner 9 0;thing 1 3 5 0;thing 0 1 2 0;thing 0 0 8 0;thing 1 2 3 0;"
+            + "bound 2 3 1;bound 0 2 1;bound 0 3 1");
+        sawn(rig, 2, 2, 3, 3);
+        // 0 sinks always; owner 1 rides it, and the others float, if one or both of the ropes are gone
+        rig = Rig.on("the least of several", "river 9 9;owner 9 2;owner 9 5;thing 1 3 2 0;thing 1 3 3 0;thing 1 3 3 0;thing 0 1 3 0;"
+            + "bound 1 3 1;bound 2 3 1");
+        sawn(rig, 1, 1, 1, 3);
+        sawn(rig, 15, 0, 0, 1);
+        rig = Rig.on("other ropes", "river 9 9;owner 9 0;thing 0 5 0 0;thing 0 0 5 0;thing 0 0 5 0;bound 1 2 1;bound 0 1 1;bound 0 2 1");
+        sawn(rig, 1, 2, 6, 2);
+        sawn(rig, 0, 0, 0, 6);
         rig = Rig.on("no things", "river 9 9");
         sawn(rig, 0, 0, 0, 1);
     }
@@ -204,6 +237,12 @@ public final class AskTest {
         // one by one into the first with room would need three
         rig = Rig.on("locks", "river 9 9;owner 9 0;thing 0 3 50 0;thing 0 3 50 0;thing 0 5 50 0;thing 0 4 50 0;thing 0 5 0 0");
         way(rig, 10, 2, 0, 0, 1, 0, 1);
+        // 4 with 5 would come first, but needs three
+        rig = Rig.on("not the first that fits", "river 9 9;owner 9 0;thing 0 4 50 0;thing 0 5 50 0;thing 0 6 50 0;thing 0 5 50 0");
+        way(rig, 10, 2, 0, 1, 0, 1);
+        way(rig, 11, 2, 0, 0, 1, 1);
+        way(rig, 9, 3, 0, 0, 1, 2);
+        way(rig, 10, 2, 0, 1, 0, 1);
         rig = Rig.on("eight by themselves", "river 9 9;owner 9 0" + ";thing 0 50 0 0".repeat(8));
         way(rig, 50, 8, 0, 1, 2, 3, 4, 5, 6, 7);
         way(rig, 99, 8, 0, 1, 2, 3, 4, 5, 6, 7);
@@ -242,6 +281,10 @@ public final class AskTest {
         rig.due("things", rig.raft.weak(1), 4 + 8);
         rig.due("what 2", rig.raft.weak(2), -1);
         rig.due("what -1", rig.raft.weak(-1), -1);
+        rig.raft.cut(2);
+        rig.due("ropes", rig.raft.weak(0), 31);
+        rig.due("things", rig.raft.weak(1), 1 + 4 + 8);
+        rig.raft.undo();
         rig.raft.cut(3);
         rig.due("ropes", rig.raft.weak(0), 31);
         rig.due("things", rig.raft.weak(1), 2 + 4 + 8);
@@ -309,6 +352,17 @@ public final class AskTest {
         rig.due("mile", r.mile(), 1);
         rig.due("what sank", r.take(2, 0), -1);
         r.offer(-1, 0, 0);
+        r.offer(0, 1, 1);
+        r.offer(0, 1, 1);
+        // 3, 1, 0: what has soaked is 0, and no less
+        take(rig, 0, -2, 3);
+        take(rig, 1, -2, 2);
+        r.offer(0, 2, 0);
+        take(rig, 0, 2, 5);
+        r.offer(-1, 0, 0);
+        r.offer(0, 9, 0);
+        take(rig, 0, 0, 100);
+        r.offer(-1, 0, 0);
         // the rope broke; the owner rides thing 0: 8 - 4 - 2 = 2, soaks 1
         take(rig, 0, -2, 3);
         take(rig, 1, -2, 2);
@@ -341,6 +395,11 @@ public final class AskTest {
         // 0 bears 1 or 2 but not both: first 1 or 2 goes, then the other (or not 0), then 0
         rig = Rig.on("game of three", "river 9 0;owner 9 0;thing 0 0 5 0;thing 0 5 0 0;thing 0 5 0 0;bound 0 1 1;bound 0 2 1");
         game(rig, 0, 1, 1);
+        // what soaks has its float of now
+        rig = Rig.on("game of what soaks", "river 9 0;owner 9 0;thing 0 5 5 5;thing 0 5 5 5;bound 0 1 1");
+        game(rig, 0, 0, -2);
+        rig = Rig.on("game of what soaks", "river 9 0;owner 9 0;thing 0 5 5 5;thing 0 0 0 0;thing 0 0 0 0;bound 0 1 1;bound 1 2 1");
+        game(rig, 0, 1, 0);
         // 0 bears 1, 2 floats: after 2 the other two lose for who is to take; or 1, then 0 and 2 lose too
         rig = Rig.on("game of three", "river 9 0;owner 9 0;thing 0 0 5 0;thing 0 5 0 0;thing 0 0 0 0;bound 0 1 1;bound 0 2 1");
         game(rig, 2, 1, 1);

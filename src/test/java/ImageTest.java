@@ -5,6 +5,7 @@ public final class ImageTest {
         drawn();
         drawnRapids();
         images();
+        imagesOfOffers();
         imageOfNoRiver();
         imagesOfUndo();
         Rig.close();
@@ -125,6 +126,23 @@ public final class ImageTest {
         return counts;
     }
 
+    private static void imagesOfOffers() {
+        Rig rig = Rig.on("images of offers", "river 9 9;owner 9 0;thing 0 5 5 1");
+        PartyRaft r = rig.raft;
+        r.offer(1, 9, 3);
+        r.offer(2, 9, 3);
+        r.image(0);
+        rig.due("take", r.take(0, 1), 3);
+        r.offer(-1, 0, 0);
+        r.offer(50, 0, 9);
+        r.offer(0, 99, 0);
+        rig.due("take", r.take(0, 0), 1);
+        r.back(0);
+        rig.due("offers", r.count(10), 2);
+        rig.due("take", r.take(0, 0), 0);
+        rig.due("take", r.take(0, 1), 3);
+    }
+
     private static void imageOfNoRiver() {
         Rig rig = new Rig("image of no river");
         PartyRaft r = rig.raft;
@@ -161,6 +179,19 @@ public final class ImageTest {
             rig.due("float", r.thing(0, 2), 99 - 5 - i);
         }
         rig.due("none", r.undo(), -2);
+        // an image of another beginning of the ring
+        rig.river("river 50 9;owner 50 0;thing 0 0 99 1");
+        r.mile();
+        r.mile();
+        r.image(1);
+        for (int i = 0; i < 26; i++) {
+            r.mile();
+        }
+        rig.due("back", r.back(1), 2);
+        rig.due("undo", r.undo(), 1);
+        rig.due("mile", r.count(7), 1);
+        rig.due("undo", r.undo(), 0);
+        rig.due("mile", r.count(7), 0);
         // what was undone since is there again in the image
         rig.due("back", r.back(0), 25);
         rig.due("undo", r.undo(), 19);

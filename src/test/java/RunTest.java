@@ -9,6 +9,8 @@ public final class RunTest {
         tests();
         clauses();
         greatest();
+        onTheRiver();
+        manyRules();
         ropeAndRopes();
         miles();
         refusals();
@@ -150,6 +152,43 @@ public final class RunTest {
         pair(four + ";bound 3 1 1", "tie weight", 0, 1);
         pair(four + ";bound 0 1 1;bound 0 2 1", "tie apart", 0, 3);
         pair(four + ";bound 0 1 1;bound 0 2 1", "tie 2-apart", 1, 2);
+    }
+
+    private static void onTheRiver() {
+        Rig rig = Rig.on("on the river", "river 9 9;owner 1 0;owner 9 0;thing 0 9 50 0;thing 1 9 0 0;thing 1 0 50 0;thing 1 0 50 0");
+        rig.due("0 lands, 1 sinks", rig.raft.mile(), 1);
+        rig.rule("tie weight+1");
+        rig.raft.run(0, 1, 1);
+        rig.due("one", rig.raft.rope(0, 0), 2);
+        rig.due("other", rig.raft.rope(0, 1), 3);
+        rig.raft.run(0, 1, 1);
+        rig.due("no more than these", rig.raft.count(4), 1);
+        rig = Rig.on("one left", "river 9 9;owner 9 0;thing 0 9 0 0;thing 0 0 50 0");
+        rig.rule("tie mile");
+        rig.due("run", rig.raft.run(0, 2, 1), 1);
+        rig.due("none", rig.raft.count(4), 0);
+        String star = "river 9 9;owner 9 0" + ";thing 0 0 50 0".repeat(6) + ";bound 0 1 1;bound 0 2 1;bound 0 3 1;bound 3 4 1";
+        pair(star, "tie 9 if ropes=4", 0, 4);
+        pair(star, "tie 9 if ropes=3", 0, 5);
+        pair(star, "tie 9 if ropes=0 or ropes=2 and one>0", 1, 2);
+        pair(star, "tie 9-ropes", 1, 5);
+    }
+
+    private static void manyRules() {
+        Rig rig = Rig.on("many rules", PAIR);
+        for (int i = 0; i < 9; i++) {
+            rig.rule("tie 0" + "+0".repeat(50) + " if 1=2;tie 0+");
+        }
+        for (int i = 0; i < 5; i++) {
+            rig.due("rule", rig.rule("tie 0" + "*0".repeat(50) + "+" + i + " if store=6;tie 9"), i);
+        }
+        rig.due("rule", rig.rule("tie 1 if 1=2"), 5);
+        rig.raft.run(5, 1, 1);
+        rig.due("a test that does not hold is the last clause", rig.raft.count(4), 0);
+        rig.raft.run(0, 1, 1);
+        rig.due("worth 0", rig.raft.count(4), 0);
+        rig.raft.run(4, 1, 1);
+        rig.due("worth 4", rig.raft.count(4), 1);
     }
 
     private static void ropeAndRopes() {

@@ -81,6 +81,10 @@ public final class TextTest {
         rig.due("bound as told, greater first", rig.river(START + "thing 0 1 2 3;thing 1 4 5 6;bound 1 0 9"), 2);
         rig.due("lesser", rig.raft.rope(0, 0), 0);
         rig.due("greater", rig.raft.rope(0, 1), 1);
+        rig.due("rapids at the last miles", rig.river("river 99 0;rapid 98 8;rapid 99 9"), 0);
+        rig.due("rapid", rig.raft.rapid(98), 8);
+        rig.due("rapid", rig.raft.rapid(99), 9);
+        rig.due("rapid", rig.raft.rapid(100), -1);
         rig.due("owner told late", rig.river("river 5 5;rapid 1 1;owner 5 0;thing 0 0 0 0;owner 1 0"), 1);
     }
 
@@ -261,6 +265,12 @@ public final class TextTest {
         ruleFault(rig, "tie 1 if 1=1 if 1=1", 13, 0);
         ruleFault(rig, "tie floats", 4, 0);
         ruleFault(rig, "tie tie", 4, 0);
+        ruleFault(rig, "tie onez", 4, 0);
+        ruleFault(rig, "tie aone", 4, 0);
+        ruleFault(rig, "tie one`", 7, 0);
+        ruleFault(rig, "tie one{", 7, 0);
+        ruleFault(rig, "tie 1:", 5, 0);
+        ruleFault(rig, "tie on", 4, 0);
         ruleFault(rig, "tie 1a", 5, 0);
         ruleFault(rig, "tie oneA", 7, 0);
         ruleFault(rig, "tie 123456", 4, 1);
