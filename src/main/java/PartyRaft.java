@@ -514,7 +514,7 @@ public final class PartyRaft {
     }
 
     private static boolean contains(int set, int number) {
-        return (set >> number & 1) != 0;
+        return ((set >> number) & 1) != 0;
     }
 
     private static int nextDraw(int x) {
@@ -880,6 +880,7 @@ public final class PartyRaft {
         static final int STACK = 64;
 
         static final int KIND_BITS = 4;
+        static final int KIND_MASK = 15;
         static final int NUMBER = 0;
         static final int WORD = 1;
         static final int NOT = 2;
@@ -920,7 +921,7 @@ public final class PartyRaft {
 
         void add(int kind, int number) {
             if (length < MOST_BYTES) {
-                code[length] = number << KIND_BITS | kind;
+                code[length] = (number << KIND_BITS) + kind;
                 length++;
             }
         }
@@ -940,7 +941,7 @@ public final class PartyRaft {
         private long valueOf(int start, int stop, Raft raft, Pieces pieces, int one, int other) {
             int top = 0;
             for (int i = start; i < stop; i++) {
-                int kind = code[i] & (1 << KIND_BITS) - 1;
+                int kind = code[i] & KIND_MASK;
                 int number = code[i] >> KIND_BITS;
                 int used = kind <= WORD ? 0 : kind == NOT ? 1 : 2;
                 if (top < used || top - used >= STACK) {
@@ -980,7 +981,7 @@ public final class PartyRaft {
                 case 6:
                     return contains(pieces.of[one], other) ? 0 : 1;
                 case 7:
-                    return Integer.bitCount(raft.ropesOf(1 << one | 1 << other));
+                    return Integer.bitCount(raft.ropesOf((1 << one) | (1 << other)));
                 case 8:
                     return raft.store;
                 case 9:
@@ -1454,10 +1455,10 @@ public final class PartyRaft {
         }
 
         void unite(int one, int other) {
-            int both = of[one] | of[other];
             if (of[one] == of[other]) {
                 return;
             }
+            int both = of[one] | of[other];
             for (int t = 0; t < MOST_THINGS; t++) {
                 if (contains(both, t)) {
                     of[t] = both;
@@ -1467,7 +1468,8 @@ public final class PartyRaft {
 
         /** Whether a THING is the least of its PIECE: each PIECE is met once by these. */
         boolean isLeast(int thing) {
-            return of[thing] != 0 && (of[thing] & (1 << thing) - 1) == 0;
+            int lesser = (1 << thing) - 1;
+            return of[thing] != 0 && (of[thing] & lesser) == 0;
         }
 
         int howMany() {
@@ -1816,7 +1818,7 @@ public final class PartyRaft {
             int sum = 0;
             for (int t = 0; t < MOST_THINGS; t++) {
                 if (canFollow(set, t, all)) {
-                    sum += ways[set | 1 << t];
+                    sum += ways[set | (1 << t)];
                 }
             }
             return sum;
@@ -1841,7 +1843,7 @@ public final class PartyRaft {
             int set = 0;
             for (int i = 0; i < MOST_THINGS && set != all; i++) {
                 for (int t = 0; t < MOST_THINGS; t++) {
-                    if (canFollow(set, t, all) && ways[set | 1 << t] > 0) {
+                    if (canFollow(set, t, all) && ways[set | (1 << t)] > 0) {
                         first[i] = t;
                         length = i + 1;
                         set |= 1 << t;

@@ -106,6 +106,11 @@ public final class AskTest {
         rig.raft.mile();
         rig.due("float then", rig.raft.thing(2, 2), 1);
         rig.due("not by what landed", rig.raft.bearers(4, 1), 1);
+        rig = Rig.on("not by what landed", "river 6 9;owner 1 0;owner 6 0;thing 0 0 99 0;thing 1 50 0 0;thing 1 9 9 9;thing 1 0 99 0;bound 2 3 1");
+        rig.due("by what lands", rig.raft.bearers(4, 0), 0);
+        rig.due("by what lands", rig.raft.bearers(2, 1), 1);
+        rig.raft.mile();
+        rig.due("by what is left", rig.raft.bearers(4, 1), 8);
         rig = Rig.on("bearers", "river 6 9");
         rig.due("no things", rig.raft.bearers(0, 0), 0);
     }

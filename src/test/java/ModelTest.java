@@ -4,7 +4,7 @@ import java.util.Random;
 
 /** Runs of calls by chance (always the same chance) on the class and on the Model beside it. */
 public final class ModelTest {
-    private static final int RUNS = 1500;
+    private static final int RUNS = 1200;
     private static final int CALLS = 90;
     private static final String[] WORDS = {"one", "other", "float", "weight", "soak", "same", "apart", "ropes",
         "store", "mile", "landing", "left"};
@@ -69,7 +69,8 @@ public final class ModelTest {
         if (!rarely(20)) {
             tellRiver();
         }
-        for (int i = 0; i < CALLS && !wrong; i++) {
+        int calls = rarely(8) ? 4 * CALLS : CALLS;
+        for (int i = 0; i < calls && !wrong; i++) {
             switch (below(14)) {
                 case 0:
                     if (rarely(4)) {
@@ -162,10 +163,12 @@ public final class ModelTest {
             clauses.add("owner " + (1 + below(miles)) + " " + below(rarely(2) ? 5 : 21));
         }
         int things = rarely(15) ? 9 : 1 + below(8);
-        boolean light = rarely(2);
+        int style = below(3);
         for (int i = 0; i < things; i++) {
-            clauses.add("thing " + below(owners) + " " + below(light ? 12 : 51) + " " + below(light ? 30 : 100) + " "
-                + below(rarely(2) ? 3 : 10));
+            int weight = below(style == 0 ? 51 : style == 1 ? 12 : 20);
+            int floats = style == 0 ? below(100) : style == 1 ? below(30) : 20 + below(80);
+            int soak = below(style == 2 || rarely(2) ? 3 : 10);
+            clauses.add("thing " + below(owners) + " " + weight + " " + floats + " " + soak);
         }
         int ropes = below(14);
         Model.World seen = new Model.World();
