@@ -12,7 +12,6 @@ public final class ActTest {
         pushing();
         undoing();
         twenty();
-        nothingHappens();
         Rig.close();
     }
 
@@ -245,38 +244,5 @@ public final class ActTest {
         rig.due("mile", r.count(7), 13);
         rig.due("none", r.undo(), -2);
         rig.due("mile", r.count(7), 13);
-    }
-
-    private static void nothingHappens() {
-        Rig rig = Rig.on("asked", "river 9 9;owner 3 1;owner 7 2;thing 0 2 9 1;thing 1 3 9 1;thing 1 0 5 2;bound 0 1 4;bound 1 2 6;rapid 1 5");
-        PartyRaft r = rig.raft;
-        r.offer(1, 2, 3);
-        r.seed(5);
-        r.mile();
-        String before = all(r);
-        r.ahead(5, 0);
-        r.sinks(0);
-        r.bearers(1, 0);
-        r.plan(-1);
-        r.sawn(1, 0);
-        r.locks(10, 0);
-        r.delta(0);
-        r.weak(0);
-        r.weak(1);
-        r.take(0, 0);
-        r.game(0, 0);
-        r.drawn(20, 5, 0);
-        rig.due("by what is asked nothing changes", before.equals(all(r)) ? 1 : 0, 1);
-    }
-
-    private static String all(PartyRaft r) {
-        StringBuilder s = new StringBuilder();
-        for (int what = 0; what < 14; what++) {
-            s.append(r.count(what)).append(' ');
-            for (int i = 0; i < 12; i++) {
-                s.append(r.owner(i, what)).append(' ').append(r.thing(i, what)).append(' ').append(r.rope(i, what)).append(' ');
-            }
-        }
-        return s.toString();
     }
 }
