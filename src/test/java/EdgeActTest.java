@@ -651,6 +651,20 @@ public final class EdgeActTest {
             rig.raft.run(0, 1, 1);
             rig.due(rules[i], rig.raft.count(4), bound[i]);
         }
+        // a short rule behind longer ones, one of them with a fault: of those nothing is left in it
+        for (String longer : new String[] {"tie 0*0*0*0*0*0*0*0", "tie 0+0+0+0+0+0+0+0", "tie 0 if not not not not not 1=2 and 1=2;tie 0", "tie 0 if 1=2 or 1=2 or 1=2;tie 0;tie"}) {
+            Rig rig = Rig.on("behind " + longer, "river 9 9;owner 9 0;thing 0 0 9 0;thing 0 0 9 0;thing 0 0 9 0");
+            rig.rule(longer);
+            int rule = rig.rule("tie 1 if 1=1");
+            rig.raft.run(rule, 1, 1);
+            rig.due("the test holds", rig.raft.count(4), 1);
+            rule = rig.rule("tie 1 if 1=2");
+            rig.raft.run(rule, 1, 1);
+            rig.due("the test does not hold", rig.raft.count(4), 1);
+            rule = rig.rule("tie 2*one+other");
+            rig.raft.run(rule, 1, 1);
+            rig.due("1 and 2", rig.raft.rope(1, 0), 1);
+        }
     }
 
     /** "(These can't be UNDONE: nothing that was done ahead of them can, either.)" */
