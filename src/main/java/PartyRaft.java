@@ -584,16 +584,12 @@ public final class PartyRaft {
             return false;
         }
 
-        int signAt(int place) {
-            return place >= 0 && place < length ? bytes[place] & 255 : END;
-        }
-
         /** The byte that is next but for blanks, which are passed over. */
         int next() {
             while (at < length && bytes[at] == ' ') {
                 at++;
             }
-            return signAt(at);
+            return at < length ? bytes[at] & 255 : END;
         }
 
         boolean accept(int sign) {
@@ -601,6 +597,15 @@ public final class PartyRaft {
                 return false;
             }
             from = at;
+            at++;
+            return true;
+        }
+
+        /** The second sign of two that are one: no blank may stand ahead of it. */
+        boolean acceptAtOnce(int sign) {
+            if (at >= length || bytes[at] != sign) {
+                return false;
+            }
             at++;
             return true;
         }
@@ -1132,11 +1137,10 @@ public final class PartyRaft {
             if (!less && !tape.accept('>')) {
                 return NONE;
             }
-            if (tape.signAt(tape.at) != '=') {
-                return less ? Rule.LESS : Rule.MORE;
+            if (tape.acceptAtOnce('=')) {
+                return less ? Rule.AT_MOST : Rule.AT_LEAST;
             }
-            tape.at++;
-            return less ? Rule.AT_MOST : Rule.AT_LEAST;
+            return less ? Rule.LESS : Rule.MORE;
         }
 
         /** TERMS with + or - between; one of these is put behind its second TERM. */

@@ -12,6 +12,7 @@ public final class EdgeTextTest {
         feedHighestFirst();
         endHasNotSoMany();
         endFirstBytesAlone();
+        bytesCutOffAreNotRead();
         riverOf400Bytes();
         riverNumbers();
         riverOnceAndFirst();
@@ -150,6 +151,35 @@ public final class EdgeTextTest {
         rig.due("river 5 7;owner 2 2", rig.raft.river(), 0);
         rig.due("store", rig.raft.count(1), 7);
         rig.due("owners", rig.raft.count(2), 1);
+    }
+
+    /** "its first n bytes alone": a text that was cut is read as if the rest had never come. */
+    private static void bytesCutOffAreNotRead() {
+        String river = "river 12 34;owner 11 12;owner 10 3;thing 1 45 67 8;thing 0 0 0 0;bound 0 1 7;rapid 10 9  ;rapid 11 1";
+        String rule = "tie 123*left+one if not [ 12<=34 and weight>=5 or 1<= 2 ] and 7>=6;tie soak  ";
+        for (int n = 0; n <= river.length(); n++) {
+            Rig whole = new Rig("a river cut at " + n);
+            Rig part = new Rig("a river of " + n);
+            Rig.tell(whole.raft, river);
+            whole.raft.end(n);
+            whole.due("river()", whole.raft.river(), part.river(river.substring(0, n)));
+            for (int what = 0; what < 14; what++) {
+                whole.due("count(" + what + ")", whole.raft.count(what), part.raft.count(what));
+            }
+        }
+        for (int n = 0; n <= rule.length(); n++) {
+            Rig whole = new Rig("a rule cut at " + n);
+            Rig part = new Rig("a rule of " + n);
+            Rig.tell(whole.raft, rule);
+            whole.raft.end(n);
+            whole.due("rule()", whole.raft.rule(), part.rule(rule.substring(0, n)));
+            whole.due("count(6)", whole.raft.count(6), part.raft.count(6));
+        }
+        // a sign of two bytes whose second was cut off
+        Rig rig = new Rig("a sign cut in two");
+        Rig.tell(rig.raft, "tie 1 if 1<=1");
+        rig.raft.end(11);
+        rig.due("rule()", rig.raft.rule(), fault(11, 0));
     }
 
     // ---- Promise 4, and the language of a river ----
